@@ -350,7 +350,7 @@ public final class TouchSelect {
         }
 
         private boolean hasKept(int read) {
-            return (keptReads >>> read & 1L) != 0;
+            return ((keptReads >>> read) & 1L) != 0;
         }
 
         private int reasonOfRead(int read, Sources now) {

@@ -485,6 +485,10 @@ public final class PromisesTest {
         due("12 a function came", x.why(0), 4);
         x.changeFunction(3, 1);
         due("12 it never goes", x.why(0), 4);
+        x.reads(0, 0, NONE);
+        x.outcome(0, true);
+        x.function(0, 0);
+        due("12 the very next function came, with digest 0", x.why(0), 4);
     }
 
     private static void whyByFunctions() {
