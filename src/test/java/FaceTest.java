@@ -20,11 +20,17 @@ public final class FaceTest {
     };
     private static final String RULED_OUT = "\\b(import|package|throw|throws|try|catch|synchronized|assert|protected"
         + "|System\\.(?!arraycopy)\\w+|Object|hashCode|toString|var|\\w+Exact)\\b|->|::|\\benum\\b.*\\{.*\\{";
+    private static final int MOST_CLASSES = 12;
+    private static final int MOST_FIELDS = 20;
+    private static final int MOST_PARAMETERS = 7;
+    private static final int MOST_LINES = 60;
     private static int wrong = 0;
 
     public static void main(String[] args) throws Exception {
         face();
+        constant();
         members();
+        sizes();
         if (args.length > 0) {
             source(Files.readString(Path.of(args[0])));
         } else {
@@ -60,6 +66,14 @@ public final class FaceTest {
         int modifiers = TouchSelect.class.getModifiers();
         if (!Modifier.isPublic(modifiers) || !Modifier.isFinal(modifiers)) {
             say("the class is not public and final");
+        }
+    }
+
+    private static void constant() throws Exception {
+        Field none = TouchSelect.class.getDeclaredField("NONE");
+        int due = Modifier.PUBLIC | Modifier.STATIC | Modifier.FINAL;
+        if (none.getModifiers() != due || none.getType() != int.class || none.getInt(null) != -1) {
+            say("the constant NONE is not as due: " + none);
         }
     }
 
@@ -103,6 +117,32 @@ public final class FaceTest {
         }
     }
 
+    private static void sizes() {
+        Class<?>[] inside = TouchSelect.class.getDeclaredClasses();
+        if (inside.length + 1 > MOST_CLASSES) {
+            say("too many classes: " + (inside.length + 1));
+        }
+        sizesOf(TouchSelect.class);
+        for (Class<?> one : inside) {
+            sizesOf(one);
+        }
+    }
+
+    private static void sizesOf(Class<?> one) {
+        int fields = 0;
+        for (Field field : one.getDeclaredFields()) {
+            fields += Modifier.isStatic(field.getModifiers()) ? 0 : 1;
+        }
+        if (fields > MOST_FIELDS) {
+            say("class " + one.getName() + " has too many fields: " + fields);
+        }
+        for (Method method : one.getDeclaredMethods()) {
+            if (method.getParameterCount() > MOST_PARAMETERS) {
+                say("method " + method.getName() + " takes too much");
+            }
+        }
+    }
+
     private static boolean isPrivate(Member member) {
         return member.isSynthetic() || Modifier.isPrivate(member.getModifiers());
     }
@@ -116,6 +156,25 @@ public final class FaceTest {
         Matcher fields = Pattern.compile("static (?!final)[^(\n]*[;=]").matcher(code);
         while (fields.find()) {
             say("a static field is not final: " + fields.group());
+        }
+        methodLengths(code.split("\n"));
+    }
+
+    // A method's first line ends with a brace behind its parameters, and its last is a brace as far in as the first.
+    private static void methodLengths(String[] lines) {
+        Pattern head = Pattern.compile("( +)(?!.*\\b(if|for|while|switch|else)\\b).*\\) \\{");
+        for (int i = 0; i < lines.length; i++) {
+            Matcher found = head.matcher(lines[i]);
+            if (!found.matches()) {
+                continue;
+            }
+            int end = i;
+            while (end < lines.length && !lines[end].equals(found.group(1) + "}")) {
+                end++;
+            }
+            if (end - i + 1 > MOST_LINES) {
+                say("a method is too long: " + lines[i].trim());
+            }
         }
     }
 }
